@@ -505,13 +505,26 @@ public final class GraveRequest {
         return NONE;
     }
 
-    /** Marks the numbers that go with what is SEEN by the days played up to one, and counts them. */
+    /**
+     * For each number by which the asker can be minded the days on which he is played then, up to one, as bits;
+     * NONE where that is not as SEEN. How many are.
+     */
     private int findFitting(int asker, int lastDay) {
         boolean canBe = canLookAhead(lastSeenDay());
         int count = 0;
         for (int v = 0; v <= MOST_MINDED; v++) {
-            fitting[v] = canBe ? playedDays(asker, v, lastDay) : NONE;
-            count += fitting[v] != NONE ? 1 : 0;
+            boolean agrees = canBe;
+            int playedBits = 0;
+            tryFromNow();
+            trial.minds[asker] = v;
+            for (int d = 0; d <= lastDay && agrees && canLookAhead(d); d++) {
+                int bits = machine.bestBits(told, trial);
+                agrees = rowsAgree(d, bits);
+                playedBits |= ((bits >> asker) & 1) << d;
+                machine.playDay(told, trial, bits);
+            }
+            fitting[v] = agrees ? playedBits : NONE;
+            count += agrees ? 1 : 0;
         }
         return count;
     }
@@ -522,22 +535,6 @@ public final class GraveRequest {
             last = Math.max(last, seen[r][0]);
         }
         return last;
-    }
-
-    /** Bit d: played on the DAY d AHEAD, if he were minded so; NONE if that is not as SEEN. */
-    private int playedDays(int asker, int minds, int lastDay) {
-        tryFromNow();
-        trial.minds[asker] = minds;
-        int playedBits = 0;
-        for (int d = 0; d <= lastDay && canLookAhead(d); d++) {
-            int bits = machine.bestBits(told, trial);
-            if (!rowsAgree(d, bits)) {
-                return NONE;
-            }
-            playedBits |= ((bits >> asker) & 1) << d;
-            machine.playDay(told, trial, bits);
-        }
-        return playedBits;
     }
 
     private boolean rowsAgree(int ahead, int bits) {
@@ -971,7 +968,6 @@ public final class GraveRequest {
         private int start = 0;
         private int end = 0;
         private int name = 0;
-        private int word = NONE;
         private int faultKind = 0;
         private int faultPlace = NONE;
 
@@ -1017,83 +1013,65 @@ public final class GraveRequest {
             return kind != ENDED && kind != STOPPED;
         }
 
-        private int byteAt(int at) {
-            return at >= 0 && at < length && at < text.length ? text[at] : 0;
-        }
-
-        private boolean isLetterAt(int at) {
-            int c = byteAt(at);
-            return c >= 'a' && c <= 'z';
-        }
-
-        private boolean isDigitAt(int at) {
-            int c = byteAt(at);
-            return c >= '0' && c <= '9';
-        }
-
+        /** Goes to the next word, number or sign. */
         private void take() {
             if (kind == STOPPED) {
                 return;
             }
             boolean needsBlank = kind == WORD || kind == DIGITS;
             int at = end;
-            while (at < length && (byteAt(at) == ' ' || byteAt(at) == 10)) {
+            while (at < length && (text[at] == ' ' || text[at] == 10)) {
                 at++;
             }
+            int first = at < length ? text[at] : 0;
+            boolean letter = first >= 'a' && first <= 'z';
+            boolean digit = first >= '0' && first <= '9';
             boolean glued = needsBlank && at == end;
             start = at;
-            end = at < length ? at + 1 : at;
+            name = 0;
             if (at >= length) {
                 kind = ENDED;
-            } else if (glued && (isLetterAt(at) || isDigitAt(at))) {
+            } else if (glued && (letter || digit)) {
                 kind = GLUED;
-            } else if (isLetterAt(at)) {
-                takeWord();
-            } else if (isDigitAt(at)) {
-                takeDigits();
+                at++;
+            } else if (letter) {
+                kind = WORD;
+                while (at < length && text[at] >= 'a' && text[at] <= 'z') {
+                    int k = at - start;
+                    name |= k < NAME_LETTERS ? (text[at] - 'a' + 1) << (5 * k) : 0;
+                    at++;
+                }
+            } else if (digit) {
+                kind = DIGITS;
+                while (at < length && text[at] >= '0' && text[at] <= '9') {
+                    at++;
+                }
             } else {
                 kind = SIGN;
-            }
-        }
-
-        private void takeWord() {
-            kind = WORD;
-            name = 0;
-            word = NONE;
-            int at = start;
-            while (at < length && isLetterAt(at)) {
-                if (at - start < NAME_LETTERS) {
-                    name |= (byteAt(at) - 'a' + 1) << (5 * (at - start));
-                }
-                at++;
-            }
-            end = at;
-            for (int w = 0; w < ALL_WORDS && end - start <= NAME_LETTERS; w++) {
-                if (wordNames[w] == name) {
-                    word = w;
-                }
-            }
-        }
-
-        private void takeDigits() {
-            kind = DIGITS;
-            int at = start;
-            while (at < length && isDigitAt(at)) {
                 at++;
             }
             end = at;
         }
 
         private boolean isSign(char sign) {
-            return kind == SIGN && byteAt(start) == sign;
+            return kind == SIGN && start >= 0 && start < length && text[start] == sign;
         }
 
         private boolean isWord(int wanted) {
-            return kind == WORD && word == wanted;
+            return kind == WORD && end - start <= NAME_LETTERS
+                    && wanted >= 0 && wanted < ALL_WORDS && wordNames[wanted] == name;
         }
 
-        private boolean isOwnWord() {
-            return kind == WORD && word >= 0 && word < OWN_WORDS;
+        /** The number of the word that stands here; NONE without one that is known. */
+        private int knownWord() {
+            if (kind == WORD && end - start <= NAME_LETTERS) {
+                for (int w = 0; w < ALL_WORDS; w++) {
+                    if (wordNames[w] == name) {
+                        return w;
+                    }
+                }
+            }
+            return NONE;
         }
 
         private void needSign(char sign) {
@@ -1118,8 +1096,8 @@ public final class GraveRequest {
                 return 0;
             }
             int value = 0;
-            for (int at = start; at < end && at < start + NUMBER_DIGITS; at++) {
-                value = 10 * value + byteAt(at) - '0';
+            for (int at = start; at < end && at < length && at < start + NUMBER_DIGITS; at++) {
+                value = 10 * value + text[at] - '0';
             }
             if (end - start > NUMBER_DIGITS) {
                 fail(1, start + NUMBER_DIGITS);
@@ -1133,7 +1111,8 @@ public final class GraveRequest {
 
         /** Whether a NAME stands here; if not, that is the FAULT. */
         private boolean standsName() {
-            if (kind != WORD || isOwnWord()) {
+            int known = knownWord();
+            if (kind != WORD || (known >= 0 && known < OWN_WORDS)) {
                 fail(1, start);
             } else if (end - start > NAME_LETTERS) {
                 fail(1, start + NAME_LETTERS);
@@ -1175,7 +1154,7 @@ public final class GraveRequest {
             asking = true;
             ofSongs = true;
             tokens.read(text, length);
-            form = tokens.kind == Tokens.WORD ? tokens.word : NONE;
+            form = tokens.knownWord();
             if (form < FIRST || form > LEAST) {
                 tokens.fail(1, tokens.start);
                 return;
@@ -1194,7 +1173,7 @@ public final class GraveRequest {
         }
 
         private void readStatement(Station into) {
-            int word = tokens.kind == Tokens.WORD ? tokens.word : NONE;
+            int word = tokens.knownWord();
             if ((word == HOUR) != (into.statements == 0)) {
                 tokens.fail(1, tokens.start);
                 return;
@@ -1363,27 +1342,26 @@ public final class GraveRequest {
                 tokens.take();
                 out.add(1);
             } else {
-                readComparison(open);
+                readSum(open);
+                int op = comparison();
+                if (op == NONE) {
+                    tokens.fail(1, tokens.start);
+                } else {
+                    tokens.take();
+                    readSum(open);
+                    out.add(op);
+                }
             }
         }
 
-        private void readComparison(int open) {
-            readSum(open);
-            int op = NONE;
+        private int comparison() {
             if (tokens.isSign('<')) {
-                op = OP_LESS;
-            } else if (tokens.isSign('>')) {
-                op = OP_MORE;
-            } else if (tokens.isSign('=')) {
-                op = OP_SAME;
+                return OP_LESS;
             }
-            if (op == NONE) {
-                tokens.fail(1, tokens.start);
-                return;
+            if (tokens.isSign('>')) {
+                return OP_MORE;
             }
-            tokens.take();
-            readSum(open);
-            out.add(op);
+            return tokens.isSign('=') ? OP_SAME : NONE;
         }
 
         private void readSum(int open) {
@@ -1410,8 +1388,8 @@ public final class GraveRequest {
         private void readPiece(int open) {
             if (tokens.kind == Tokens.DIGITS) {
                 out.add(tokens.needNumber(0, 9999));
-            } else if (isFactWord()) {
-                out.add(OP_FACT + tokens.word);
+            } else if (isFact(tokens.knownWord())) {
+                out.add(OP_FACT + tokens.knownWord());
                 tokens.take();
             } else if (asking && tokens.isWord(WANTS)) {
                 if (mayOpen(open)) {
@@ -1447,11 +1425,8 @@ public final class GraveRequest {
             }
         }
 
-        private boolean isFactWord() {
-            if (tokens.kind != Tokens.WORD) {
-                return false;
-            }
-            switch (tokens.word) {
+        private boolean isFact(int word) {
+            switch (word) {
                 case MINDS:
                 case AGE:
                 case SINCE:
@@ -1639,23 +1614,21 @@ public final class GraveRequest {
         }
 
         private static int join(int op, int a, int b) {
+            long value;
             switch (op) {
-                case OP_ADD: return bounded((long) a + b);
-                case OP_SUBTRACT: return bounded((long) a - b);
-                case OP_MULTIPLY: return bounded((long) a * b);
-                case OP_DIVIDE: return b == 0 ? 0 : Math.floorDiv(a, b);
-                case OP_LESS: return a < b ? 1 : 0;
-                case OP_MORE: return a > b ? 1 : 0;
-                case OP_SAME: return a == b ? 1 : 0;
-                case OP_AND: return a & b;
-                case OP_OR: return a | b;
-                case OP_MIN: return Math.min(a, b);
-                case OP_MAX: return Math.max(a, b);
-                default: return 0;
+                case OP_ADD: value = (long) a + b; break;
+                case OP_SUBTRACT: value = (long) a - b; break;
+                case OP_MULTIPLY: value = (long) a * b; break;
+                case OP_DIVIDE: value = b == 0 ? 0 : Math.floorDiv(a, b); break;
+                case OP_LESS: value = a < b ? 1 : 0; break;
+                case OP_MORE: value = a > b ? 1 : 0; break;
+                case OP_SAME: value = a == b ? 1 : 0; break;
+                case OP_AND: value = a & b; break;
+                case OP_OR: value = a | b; break;
+                case OP_MIN: value = Math.min(a, b); break;
+                case OP_MAX: value = Math.max(a, b); break;
+                default: value = 0; break;
             }
-        }
-
-        private static int bounded(long value) {
             return (int) Math.max(-MOST_VALUE, Math.min(MOST_VALUE, value));
         }
 

@@ -131,6 +131,18 @@ public final class ActsTest {
         c.sees(2, 0, 0, 1, 20, 2, 1);
         c.due("fits(2, 0), d beats a on day 20", c.x.fits(2, 0), 69);
         c.due("fits(2, 1), d beats a on day 20", c.x.fits(2, 1), 31);
+        c.sees(2, 0, 0, 0, 1, 1, 1);
+        c.due("fits(1, 0), b on day 1, not a on day 0", c.x.fits(1, 0), 49);
+        c.station("hour 5;song s long 5 style 0;asker a wants s dies 0 minds 5;fades minds+1;");
+        c.sees(1, 0, 0, 0);
+        c.due("fits(0, 0), forgotten alone", c.x.fits(0, 0), 1);
+        c.due("fits(0, 1), forgotten alone", c.x.fits(0, 1), 0);
+        c.due("fits(0, 2), forgotten alone", c.x.fits(0, 2), 0);
+        c.sees(1, 1, 0, 1);
+        c.due("fits(0, 1), minded by 1 tomorrow", c.x.fits(0, 1), 0);
+        c.due("tells(0, 0), played or not today", c.x.tells(0, 0), 0);
+        c.due("tells(0, 1), played or not today", c.x.tells(0, 1), 99);
+        c.station(RIVALS);
         c.sees(2, 0, 0, 1, 0, 0, 0);
         c.due("fits(0, 0), against itself", c.x.fits(0, 0), 0);
         c.sees(1, 5, 0, 1);
@@ -245,7 +257,8 @@ public final class ActsTest {
         c.station(SONGS + three + "toll 100;");
         c.due("chance(0)", c.x.chance(0), NONE);
         c.due("chance(101)", c.x.chance(101), NONE);
-        c.due("status(3)", c.x.status(3), 3);
+        c.due("chance(-1)", c.x.chance(-1), NONE);
+        c.due("status(3)", c.x.status(3), 4);
         // seed 1: 1103527590, 17242618 mod 100 = 18; then 377401575, 5896899 mod 3 = 0: a dies on day 0
         c.due("chance(1)", c.x.chance(1), 1);
         c.due("asker(0, 1)", c.x.asker(0, 1), 0);
@@ -257,8 +270,17 @@ public final class ActsTest {
         c.due("has(9)", c.x.has(9), 3);
         c.due("chance(3), none left to die", c.x.chance(3), 0);
         c.station(SONGS + three);
+        c.due("chance(100), no toll", c.x.chance(100), 0);
+        c.due("has(4), no toll", c.x.has(4), 100);
+        c.station(SONGS + three);
         c.due("chance(50), no toll", c.x.chance(50), 0);
         c.due("has(6), no toll", c.x.has(6), 0);
+        // 42: 1250496027, 19539000 mod 100 = 0, below 1 but not below 0
+        c.x.seed(42);
+        c.due("chance(1), no toll", c.x.chance(1), 0);
+        c.x.seed(42);
+        c.station(SONGS + three + "toll 1;");
+        c.due("chance(1), toll 1", c.x.chance(1), 1);
         // below toll alone: 18 is not below 18
         c.x.seed(1);
         c.station(SONGS + three + "toll 18;");
@@ -317,6 +339,20 @@ public final class ActsTest {
         c.due("asker(0, 0), behind the fifth", c.x.asker(0, 0), 1);
         c.due("status(4)", c.x.status(4), 4);
         undoKeepsTheSeed();
+        undoGoesBackOneByOne();
+    }
+
+    private static void undoGoesBackOneByOne() {
+        Check c = new Check("promise 28, one by one");
+        c.station(SONGS + "asker a wants p dies 0 minds 9;");
+        for (int i = 1; i <= 30; i++) {
+            c.due("mourn(0, 1)", c.x.mourn(0, 1), 9 + i);
+        }
+        for (int i = 29; i >= 10; i--) {
+            c.due("undo()", c.x.undo(), true);
+            c.due("asker(0, 2)", c.x.asker(0, 2), 9 + i);
+        }
+        c.due("undo()", c.x.undo(), false);
     }
 
     private static void undoKeepsTheSeed() {
@@ -331,6 +367,9 @@ public final class ActsTest {
 
     private static void seed() {
         Check c = new Check("promise 29");
+        // 1 at first: 1103527590, 17242618 mod 100 = 18
+        c.station(SONGS + "asker a wants p dies 90 minds 9;toll 18;");
+        c.due("chance(1), the first seed, toll 18", c.x.chance(1), 0);
         c.due("seed(-1)", c.x.seed(-1), false);
         c.due("seed(MIN)", c.x.seed(Integer.MIN_VALUE), false);
         c.due("status(5)", c.x.status(5), 2);
@@ -375,6 +414,13 @@ public final class ActsTest {
         c.asks("least minds", 0);
         c.asks("most minds-10", -2);
         c.asks("least 10-minds", 2);
+        c.asks("most 0-number", 0);
+        c.asks("most 9-number", 9);
+        c.asks("least number-9", -9);
+        c.asks("least number+1", 1);
+        c.asks("often minds<5", 2);
+        c.asks("often minds<5 and number<9", 2);
+        c.asks("often minds<5 or minds=6", 3);
         c.asks("total 9999*9999", 4000000);
         c.asks("total 0-9999*9999", -4000000);
         c.due("status(1), none refused", c.x.status(1), 0);
@@ -474,6 +520,23 @@ public final class ActsTest {
         c.due("octet(" + bytes.length + "), the last", c.x.octet(bytes.length), check);
     }
 
+    private static void onForTwo() {
+        Check c = new Check("promise 33, two askers");
+        c.station(SONGS + "asker a wants p dies 0 minds 9;asker b wants p dies 0 minds 9;");
+        int[] good = {0, 9, 0, 77, 2, 3, 231, 99, 0, 10, 3, 231, 1, 0, 5, 7, 0, 0, 0, 0};
+        int[][] wrong = {{12, 3}, {13, 4}, {15, 100}, {16, 1}, {17, 11}, {18, 4}};
+        for (int[] change : wrong) {
+            int[] bytes = good.clone();
+            bytes[change[0]] = change[1];
+            c.turnsOn(false, bytes);
+        }
+        c.turnsOn(true, good);
+        long[] asker = {1, 5, 7, 0, 99};
+        for (int what = 0; what < asker.length; what++) {
+            c.due("asker(1, " + what + ")", c.x.asker(1, what), asker[what]);
+        }
+    }
+
     private static void on() {
         Check c = new Check("promise 33");
         c.turnsOn(false, 0, 0, 0, 0);
@@ -518,5 +581,6 @@ public final class ActsTest {
         c.station("hour 5;hush 3;");
         c.turnsOn(true, 0, 1, 0, 2);
         c.due("has(5), no asker", c.x.has(5), 2);
+        onForTwo();
     }
 }

@@ -151,6 +151,10 @@ public final class DaysTest {
         c.due("has(9), 42", c.x.has(9), 40);
         c.due("kept(0, 0), 42", c.x.kept(0, 0), 2);
         c.due("kept(0, 1), 42", c.x.kept(0, 1), 2);
+        c.due("kept(0, 2), 42", c.x.kept(0, 2), 3);
+        c.due("kept(2, 2), 42", c.x.kept(2, 2), 5);
+        c.due("kept(3, 2), 42", c.x.kept(3, 2), 0);
+        c.due("kept(38, 0), 42", c.x.kept(38, 0), 40);
         c.due("kept(39, 0), 42", c.x.kept(39, 0), 41);
         c.due("kept(40, 0), 42", c.x.kept(40, 0), NONE);
         c.x.undo();
@@ -309,6 +313,8 @@ public final class DaysTest {
         c.station(songs + "asker a wants p dies 0 minds 5;asker b wants u dies 0 minds 9;");
         c.due("fame(0, 3, 0)", c.x.fame(0, 3, 0), 1);
         c.due("fame(0, 3, 1)", c.x.fame(0, 3, 1), 3);
+        c.due("fame(0, 1, 0)", c.x.fame(0, 1, 0), 1);
+        c.due("fame(0, 1, 1)", c.x.fame(0, 1, 1), 1);
         c.due("fame(0, 30, 0)", c.x.fame(0, 30, 0), 1);
         c.due("fame(0, 30, 1)", c.x.fame(0, 30, 1), 5);
         c.due("fame(1, 30, 0), any song does, so the first", c.x.fame(1, 30, 0), 0);

@@ -256,7 +256,9 @@ public final class StationTest {
         c.station("hour 9;worth ((((((1))))));");
         c.station("hour 9;plays [[[[[[all]]]]]];");
         c.station("hour 9;plays not not not not not not all and not not not not not not all or not[not[not(1)<2]];");
-        c.station("hour 9;worth min(1,(((((2))))))+min(((((1)))),1)+(((((max(1,2))))));");
+        c.station("hour 9;worth min(1,(((((2))))))+min((((((1))))),1)+(((((max(1,2))))));");
+        c.faulty(4, "hour 9;worth min(1,(((((^(2");
+        c.faulty(4, "hour 9;worth min((((((^(2");
         c.faulty(4, "hour 9;worth ((((((^(1)))))));");
         c.faulty(4, "hour 9;worth (((((min(^(1),1))))));");
         c.faulty(4, "hour 9;worth (((((1)+(2)+((^(");
@@ -343,6 +345,9 @@ public final class StationTest {
         for (int what = 0; what < 12; what++) {
             c.due("has(" + what + ") later", c.x.has(what), then[what]);
         }
+        c.x.days(3);
+        // a and d have come to 0, too
+        c.due("has(7), all", c.x.has(7), 5);
     }
 
     private static void letter() {
