@@ -335,18 +335,18 @@ public final class GraveRequest {
         trial.copyNow(now);
     }
 
-    private void passTrialDay() {
-        machine.playDay(told, trial, machine.bestBits(told, trial));
+    private void tryDays(int n) {
+        tryFromNow();
+        for (int i = 0; i < n; i++) {
+            machine.playDay(told, trial, machine.bestBits(told, trial));
+        }
     }
 
     public int later(int n) {
         if (n < 0 || n > MOST_AHEAD || !canLookAhead(n)) {
             return NONE;
         }
-        tryFromNow();
-        for (int i = 0; i < n; i++) {
-            passTrialDay();
-        }
+        tryDays(n);
         return machine.bestBits(told, trial);
     }
 
@@ -354,10 +354,7 @@ public final class GraveRequest {
         if (!isAsker(asker) || n < 0 || n > MOST_AHEAD || !canLookAhead(n)) {
             return NONE;
         }
-        tryFromNow();
-        for (int i = 0; i < n; i++) {
-            passTrialDay();
-        }
+        tryDays(n);
         return trial.minds[asker];
     }
 
@@ -379,7 +376,7 @@ public final class GraveRequest {
             if (trial.silence == 0) {
                 return n;
             }
-            passTrialDay();
+            machine.playDay(told, trial, machine.bestBits(told, trial));
         }
         return NONE;
     }
