@@ -327,7 +327,8 @@ public final class GraveRequest {
 
     // ---- ahead
 
-    private boolean canLookAhead(int n) {
+    /** Whether there is a DAY behind n more; there is none beyond the last. */
+    private boolean hasDayAhead(int n) {
         return onAir && now.day + n <= LAST_DAY;
     }
 
@@ -343,7 +344,7 @@ public final class GraveRequest {
     }
 
     public int later(int n) {
-        if (n < 0 || n > MOST_AHEAD || !canLookAhead(n)) {
+        if (n < 0 || n > MOST_AHEAD || !hasDayAhead(n)) {
             return NONE;
         }
         tryDays(n);
@@ -351,7 +352,7 @@ public final class GraveRequest {
     }
 
     public int minded(int asker, int n) {
-        if (!isAsker(asker) || n < 0 || n > MOST_AHEAD || !canLookAhead(n)) {
+        if (!isAsker(asker) || n < 0 || n > MOST_AHEAD || !hasDayAhead(n)) {
             return NONE;
         }
         tryDays(n);
@@ -360,7 +361,7 @@ public final class GraveRequest {
 
     public int nothing() {
         tryFromNow();
-        for (int n = 0; n <= MOST_AHEAD && canLookAhead(n); n++) {
+        for (int n = 0; n <= MOST_AHEAD && hasDayAhead(n); n++) {
             int bits = machine.bestBits(told, trial);
             if (bits == 0) {
                 return n;
@@ -372,7 +373,7 @@ public final class GraveRequest {
 
     public int hushed() {
         tryFromNow();
-        for (int n = 0; n <= MOST_AHEAD && canLookAhead(n); n++) {
+        for (int n = 0; n <= MOST_AHEAD && hasDayAhead(n); n++) {
             if (trial.silence == 0) {
                 return n;
             }
@@ -382,7 +383,7 @@ public final class GraveRequest {
     }
 
     public int full() {
-        if (!canLookAhead(1)) {
+        if (!hasDayAhead(1)) {
             return NONE;
         }
         int can = machine.canBits(told, now);
@@ -401,7 +402,7 @@ public final class GraveRequest {
     }
 
     public int fame(int asker, int n, int what) {
-        if (!isAsker(asker) || n < 1 || n > MOST_FAME_DAYS || !canLookAhead(n)
+        if (!isAsker(asker) || n < 1 || n > MOST_FAME_DAYS || !hasDayAhead(n)
                 || what < 0 || what > 1) {
             return NONE;
         }
@@ -507,14 +508,14 @@ public final class GraveRequest {
      * NONE where that is not as SEEN. How many are.
      */
     private int findFitting(int asker, int lastDay) {
-        boolean canBe = canLookAhead(lastSeenDay());
+        boolean canBe = hasDayAhead(lastSeenDay());
         int count = 0;
         for (int v = 0; v <= MOST_MINDED; v++) {
             boolean agrees = canBe;
             int playedBits = 0;
             tryFromNow();
             trial.minds[asker] = v;
-            for (int d = 0; d <= lastDay && agrees && canLookAhead(d); d++) {
+            for (int d = 0; d <= lastDay && agrees && hasDayAhead(d); d++) {
                 int bits = machine.bestBits(told, trial);
                 agrees = rowsAgree(d, bits);
                 playedBits |= ((bits >> asker) & 1) << d;
@@ -553,7 +554,7 @@ public final class GraveRequest {
         }
         int telling = NONE;
         int fewest = 0;
-        for (int d = 0; d <= MOST_SEEN_DAY && canLookAhead(d); d++) {
+        for (int d = 0; d <= MOST_SEEN_DAY && hasDayAhead(d); d++) {
             int played = countFittingPlayed(d);
             int left = Math.max(played, count - played);
             if (telling == NONE || left < fewest) {
@@ -596,8 +597,12 @@ public final class GraveRequest {
         return now.minds[asker];
     }
 
+    private boolean canPass(int n) {
+        return n >= 1 && n <= MOST_DAYS && hasDayAhead(n);
+    }
+
     public int days(int n) {
-        if (!onAir || n < 1 || n > MOST_DAYS) {
+        if (!canPass(n)) {
             refuse(REFUSED_DAYS);
             return NONE;
         }
@@ -619,7 +624,7 @@ public final class GraveRequest {
     }
 
     public int chance(int n) {
-        if (!onAir || n < 1 || n > MOST_DAYS) {
+        if (!canPass(n)) {
             refuse(REFUSED_DAYS);
             return NONE;
         }

@@ -14,6 +14,7 @@ public final class ActsTest {
         mourn();
         days();
         chance();
+        lastDay();
         undo();
         seed();
         ask();
@@ -248,6 +249,60 @@ public final class ActsTest {
         c.due("asker(1, 1), no deaths drawn", c.x.asker(1, 1), 1);
         c.due("days(1)", c.x.days(1), 0);
         c.due("has(4)", c.x.has(4), 101);
+    }
+
+    /** Promises 26 and 27: no DAY comes behind 999, and what is refused changes nothing. */
+    private static void lastDay() {
+        Check c = new Check("the last DAY");
+        c.station(SONGS + "asker a wants p dies 0 minds 9;asker b wants p dies 90 minds 9;fades minds;toll 100;");
+        int[] asker = {0, 0, 0, 9, 0, 0, 0, 0};
+        // b dies on DAY 999: by the seed he can die earlier
+        int[] other = {0, 3, 231, 9, 0, 0, 0, 0};
+        c.turnsOn(true, join(new int[] {3, 131, 0, 5}, asker, other));
+        c.due("days(101), DAY 899", c.x.days(101), NONE);
+        c.due("days(100), DAY 899", c.x.days(100), 100);
+        c.due("has(4)", c.x.has(4), 999);
+        c.due("undo()", c.x.undo(), true);
+        c.due("days(1), DAY 899", c.x.days(1), 1);
+        c.due("days(100), DAY 900", c.x.days(100), NONE);
+        c.due("chance(100), DAY 900", c.x.chance(100), NONE);
+        c.due("has(4), refused", c.x.has(4), 900);
+        c.due("status(3)", c.x.status(3), 3);
+        c.turnsOn(true, join(new int[] {3, 230, 0, 5}, asker, other));
+        c.due("days(2), DAY 998", c.x.days(2), NONE);
+        c.due("chance(2), DAY 998", c.x.chance(2), NONE);
+        c.due("has(4), refused", c.x.has(4), 998);
+        c.due("has(6), refused", c.x.has(6), 1);
+        c.due("has(9), refused", c.x.has(9), 0);
+        c.due("has(11), refused", c.x.has(11), 0);
+        c.due("chance(1), DAY 998", c.x.chance(1), 1);
+        c.due("asker(1, 1)", c.x.asker(1, 1), 998);
+        c.due("has(4)", c.x.has(4), 999);
+        c.due("days(1), DAY 999", c.x.days(1), NONE);
+        c.due("chance(1), DAY 999", c.x.chance(1), NONE);
+        c.due("days(" + Integer.MAX_VALUE + ")", c.x.days(Integer.MAX_VALUE), NONE);
+        c.due("chance(" + Integer.MAX_VALUE + ")", c.x.chance(Integer.MAX_VALUE), NONE);
+        c.due("asker(0, 3), refused", c.x.asker(0, 3), 1);
+        c.due("has(9), refused", c.x.has(9), 1);
+        c.due("has(11), refused", c.x.has(11), 1);
+        c.due("status(3)", c.x.status(3), 9);
+        c.due("undo()", c.x.undo(), true);
+        c.due("days(1), DAY 998 anew", c.x.days(1), 1);
+        seedOnLastDay();
+    }
+
+    private static void seedOnLastDay() {
+        Check c = new Check("the seed on the last DAY");
+        c.station(SONGS + "toll 100;");
+        c.turnsOn(true, 3, 231, 0, 0);
+        c.due("chance(1), DAY 999", c.x.chance(1), NONE);
+        c.station(SONGS + "asker a wants p dies 90 minds 9;toll 19;");
+        // by the seed 1 the first draw is 18, below 19, and the second 99
+        c.due("chance(1), the first draw", c.x.chance(1), 1);
+    }
+
+    private static int[] join(int[]... rows) {
+        return java.util.Arrays.stream(rows).flatMapToInt(java.util.Arrays::stream).toArray();
     }
 
     private static void chance() {

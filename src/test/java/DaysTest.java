@@ -189,17 +189,18 @@ public final class DaysTest {
     private static void lateDays() {
         Check c = new Check("late days");
         c.station("hour 5;song s long 5 style 1;asker a wants s dies 0 minds 50;fades minds;");
-        // DAY 998, no silence, his song, dies 0, minds 50, last on 997, played 998 times
-        c.turnsOn(true, 3, 230, 0, 0, 0, 0, 0, 50, 3, 230, 3, 230);
+        // DAY 997, no silence, his song, dies 0, minds 50, last on 996, played 998 times
+        c.turnsOn(true, 3, 229, 0, 0, 0, 0, 0, 50, 3, 229, 3, 230);
         c.due("days", c.x.days(1), 1);
-        c.due("has(4)", c.x.has(4), 999);
+        c.due("has(4)", c.x.has(4), 998);
         c.due("asker(0, 3)", c.x.asker(0, 3), 999);
-        c.due("days", c.x.days(2), 2);
-        c.due("has(4), 999 at most", c.x.has(4), 999);
+        c.due("days", c.x.days(1), 1);
+        c.due("has(4), the last DAY", c.x.has(4), 999);
         c.due("asker(0, 3), 999 at most", c.x.asker(0, 3), 999);
-        c.due("asker(0, 4), played on 999", c.x.asker(0, 4), 0);
-        c.due("has(9)", c.x.has(9), 3);
-        c.due("kept(2, 0)", c.x.kept(2, 0), 999);
+        c.due("asker(0, 4), played on 998", c.x.asker(0, 4), 1);
+        c.due("has(9)", c.x.has(9), 2);
+        c.due("kept(1, 0)", c.x.kept(1, 0), 998);
+        c.due("best(0), on the last DAY", c.x.best(0), 1);
     }
 
     private static final String TURNS = "hour 10;song p long 4 style 1;song q long 7 style 1;asker a wants p dies 0 minds 4;"

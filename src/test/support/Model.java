@@ -627,7 +627,7 @@ final class Model {
         return now.people.get(a).minds = Math.min(99, now.people.get(a).minds + much);
     }
     int days(int n) {
-        if (told == null || n < 1 || n > 100) return no(3);
+        if (told == null || n < 1 || n > Math.min(100, 999 - now.day)) return no(3);
         act();
         int count = 0;
         for (int i = 0; i < n; i++) {
@@ -642,7 +642,7 @@ final class Model {
         return (int) (seed / 64 % m);
     }
     int chance(int n) {
-        if (told == null || n < 1 || n > 100) return no(3);
+        if (told == null || n < 1 || n > Math.min(100, 999 - now.day)) return no(3);
         act();
         int deaths = 0;
         for (int i = 0; i < n; i++) {
