@@ -242,6 +242,10 @@ public final class DaysTest {
         c.due("minded(2, 0)", c.x.minded(2, 0), NONE);
         c.due("minded(-1, 0)", c.x.minded(-1, 0), NONE);
         c.due("asker(0, 2), nothing has passed", c.x.asker(0, 2), 4);
+        c.station("hour 1;song s long 1 style 1;asker a wants s dies 0 minds 9;");
+        c.turnsOn(true, 3, 226, 0, 0, 0, 0, 0, 9, 0, 0, 0, 0);
+        c.due("minded(0, 5), DAY 999", c.x.minded(0, 5), 4);
+        c.due("minded(0, 6), beyond DAY 999", c.x.minded(0, 6), NONE);
     }
 
     private static void nothing() {
@@ -278,6 +282,11 @@ public final class DaysTest {
         c.due("hushed(), beyond 60", c.x.hushed(), NONE);
         c.station("hour 4;song s long 4 style 1;asker a wants s dies 0 minds 9;hush 1;fades minds;");
         c.due("hushed(), always full", c.x.hushed(), NONE);
+        c.station("hour 2;");
+        c.turnsOn(true, 3, 226, 0, 10);
+        c.due("hushed(), DAY 999", c.x.hushed(), 5);
+        c.turnsOn(true, 3, 226, 0, 11);
+        c.due("hushed(), beyond DAY 999", c.x.hushed(), NONE);
     }
 
     private static void full() {
@@ -330,5 +339,9 @@ public final class DaysTest {
         c.station(songs + "asker a wants u dies 99 minds 5;");
         c.due("fame(0, 9, 0), never played, the first", c.x.fame(0, 9, 0), 0);
         c.due("fame(0, 9, 1), never played", c.x.fame(0, 9, 1), 0);
+        c.station("hour 1;song s long 1 style 1;asker a wants s dies 0 minds 9;");
+        c.turnsOn(true, 3, 226, 0, 0, 0, 0, 0, 9, 0, 0, 0, 0);
+        c.due("fame(0, 5, 1), DAY 999", c.x.fame(0, 5, 1), 5);
+        c.due("fame(0, 6, 1), beyond DAY 999", c.x.fame(0, 6, 1), NONE);
     }
 }
