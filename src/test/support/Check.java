@@ -108,4 +108,30 @@ final class Check {
         bytes(all);
         due("on() of " + java.util.Arrays.toString(all), x.on(), want);
     }
+
+    /** All that is told by calls without effect, but for what was refused; to hold against it when all must stay. */
+    String all() {
+        StringBuilder told = new StringBuilder("has");
+        for (int what = 0; what < 12; what++) {
+            told.append(' ').append(x.has(what));
+        }
+        for (int s = 0; s < x.has(1); s++) {
+            told.append(" song ").append(x.letter(0, s, 0)).append(' ').append(x.song(s, 0)).append(' ').append(x.song(s, 1));
+        }
+        for (int a = 0; a < x.has(2); a++) {
+            told.append(" asker ").append(x.letter(1, a, 0)).append(' ').append(x.worth(a));
+            for (int what = 0; what < 6; what++) {
+                told.append(' ').append(x.asker(a, what));
+            }
+        }
+        for (int k = 0; k < x.has(9); k++) {
+            told.append(" kept ").append(x.kept(k, 0)).append(' ').append(x.kept(k, 1)).append(' ').append(x.kept(k, 2));
+        }
+        return told.append(" best ").append(x.best(0)).append(" fits ").append(x.fits(0, 0)).append(' ').append(x.fits(0, 1)).toString();
+    }
+
+    void stays(String call, String before) {
+        String behind = all();
+        due(call + " leaves \"" + before + "\" as it was, not \"" + behind + "\"", behind.equals(before), true);
+    }
 }
