@@ -39,14 +39,6 @@ public final class DayBoundsTest {
         Check.end("DayBoundsTest");
     }
 
-    private static String many(String head, String tail, int count) {
-        StringBuilder text = new StringBuilder();
-        for (int i = 0; i < count; i++) {
-            text.append(head).append((char) ('a' + i)).append(tail);
-        }
-        return text.toString();
-    }
-
     /** The station is put on a DAY; its one asker is as told here, dead on DAY 0 and wanting SONG 0. */
     private static void turnTo(Check c, int day, int silence, int minds, int lastAndOne, int played) {
         c.turnsOn(true, day >> 8, day & 255, silence >> 8, silence & 255, 0, 0, 0, minds, lastAndOne >> 8, lastAndOne & 255, played >> 8, played & 255);
@@ -132,9 +124,9 @@ public final class DayBoundsTest {
         best(c, SONGS + "asker a wants q dies 0 minds 5;asker b wants q dies 0 minds 4;", 1, 6);
         best(c, "hour 60;song p long 60 style 0;asker a wants p dies 0 minds 5;", 1, 60);
         best(c, "hour 59;song p long 60 style 0;asker a wants p dies 0 minds 5;", 0, 0);
-        best(c, "hour 8;song p long 1 style 0;" + many("asker a", " wants p dies 0 minds 5;", 8), 255, 8);
-        best(c, "hour 7;song p long 1 style 0;" + many("asker a", " wants p dies 0 minds 5;", 8), 127, 7);
-        best(c, "hour 1;song p long 1 style 0;" + many("asker a", " wants p dies 0 minds 5;", 7) + "asker x wants p dies 0 minds 6;", 128, 1);
+        best(c, "hour 8;song p long 1 style 0;" + Check.many("asker a", " wants p dies 0 minds 5;", 8), 255, 8);
+        best(c, "hour 7;song p long 1 style 0;" + Check.many("asker a", " wants p dies 0 minds 5;", 8), 127, 7);
+        best(c, "hour 1;song p long 1 style 0;" + Check.many("asker a", " wants p dies 0 minds 5;", 7) + "asker x wants p dies 0 minds 6;", 128, 1);
         // the eight of before are no longer there
         best(c, "hour 60;song p long 1 style 0;asker a wants p dies 0 minds 5;", 1, 1);
     }
@@ -149,8 +141,8 @@ public final class DayBoundsTest {
         best(c, SONGS + "asker a wants p dies 0 minds 5;worth 1;", 1, 5);
         best(c, SONGS + "asker a wants p dies 0 minds 5;worth 0-1;", 0, 0);
         best(c, SONGS + "asker a wants p dies 0 minds 5;asker b wants p dies 0 minds 3;worth minds-4;", 1, 5);
-        best(c, "hour 60;song p long 7 style 0;" + many("asker a", " wants p dies 0 minds 5;", 8) + "worth 9999*9999;", 255, 56);
-        best(c, "hour 60;song p long 7 style 0;" + many("asker a", " wants p dies 0 minds 5;", 8) + "worth 0-9999*9999;", 0, 0);
+        best(c, "hour 60;song p long 7 style 0;" + Check.many("asker a", " wants p dies 0 minds 5;", 8) + "worth 9999*9999;", 255, 56);
+        best(c, "hour 60;song p long 7 style 0;" + Check.many("asker a", " wants p dies 0 minds 5;", 8) + "worth 0-9999*9999;", 0, 0);
     }
 
     private static void playedOften() {
@@ -268,7 +260,7 @@ public final class DayBoundsTest {
             c.due("chance(1), seed " + row[0] + ", toll " + row[1], c.x.chance(1), row[2]);
             c.due("asker(0, 1)", c.x.asker(0, 1), row[2] == 1 ? 0 : 99);
         }
-        c.station(SONGS + many("asker a", " wants p dies 99 minds 9;", 8) + "toll 100;");
+        c.station(SONGS + Check.many("asker a", " wants p dies 99 minds 9;", 8) + "toll 100;");
         c.due("chance(5), one a DAY", c.x.chance(5), 5);
         c.due("has(6)", c.x.has(6), 5);
         c.due("chance(5), no more than there are", c.x.chance(5), 3);
@@ -487,8 +479,8 @@ public final class DayBoundsTest {
         full(c, "hour 60;" + songs + "asker a wants u dies 0 minds 9;asker b wants v dies 0 minds 9;asker d wants r dies 1 minds 9;", 2);
         full(c, "hour 59;" + songs + "asker a wants r dies 0 minds 9;", 0);
         full(c, "hour 1;" + songs + "asker a wants v dies 0 minds 9;asker b wants v dies 0 minds 9;", 2);
-        full(c, "hour 8;" + songs + many("asker a", " wants v dies 0 minds 9;", 8), 2);
-        full(c, "hour 9;" + songs + many("asker a", " wants v dies 0 minds 9;", 8), 0);
+        full(c, "hour 8;" + songs + Check.many("asker a", " wants v dies 0 minds 9;", 8), 2);
+        full(c, "hour 9;" + songs + Check.many("asker a", " wants v dies 0 minds 9;", 8), 0);
     }
 
     private static void twoDays() {
@@ -535,7 +527,7 @@ public final class DayBoundsTest {
         fame(c, 0, 30, 2, 30);
         c.station("hour 5;song p long 6 style 0;asker a wants p dies 0 minds 9;");
         fame(c, 0, 30, 0, 0);
-        c.station("hour 5;" + many("song s", " long 6 style 0;", 5) + "song x long 5 style 0;asker a wants sa dies 0 minds 9;");
+        c.station("hour 5;" + Check.many("song s", " long 6 style 0;", 5) + "song x long 5 style 0;asker a wants sa dies 0 minds 9;");
         fame(c, 0, 9, 5, 9);
     }
 
@@ -557,10 +549,10 @@ public final class DayBoundsTest {
         shared(c, "asker a wants p dies 0 minds 3;asker b wants p dies 0 minds 1;asker d wants p dies 0 minds 1;asker e wants p dies 0 minds 1;", 1);
         // 1, 1, 1, 3
         shared(c, "asker a wants p dies 0 minds 1;asker b wants p dies 0 minds 1;asker d wants p dies 0 minds 1;asker e wants p dies 0 minds 3;", 7);
-        shared(c, many("asker a", " wants p dies 0 minds 5;", 8), 15);
-        shared(c, many("asker a", " wants p dies 0 minds 5;", 7) + "asker x wants p dies 0 minds 35;", 127);
-        shared(c, many("asker a", " wants p dies 0 minds 5;", 8) + "worth 9999*9999;", 15);
-        shared(c, many("asker a", " wants p dies 0 minds 5;", 8) + "worth 0;", 0);
+        shared(c, Check.many("asker a", " wants p dies 0 minds 5;", 8), 15);
+        shared(c, Check.many("asker a", " wants p dies 0 minds 5;", 7) + "asker x wants p dies 0 minds 35;", 127);
+        shared(c, Check.many("asker a", " wants p dies 0 minds 5;", 8) + "worth 9999*9999;", 15);
+        shared(c, Check.many("asker a", " wants p dies 0 minds 5;", 8) + "worth 0;", 0);
         // the eight of before are no longer there
         shared(c, "asker a wants p dies 0 minds 9;", 0);
     }
@@ -571,7 +563,7 @@ public final class DayBoundsTest {
         shared(c, "asker a wants p dies 0 minds 9;asker b wants p dies 0 minds 4;worth minds-5;", 0);
         // -5 and -3: the less is -5, or -8 if one side has both
         shared(c, "asker a wants p dies 0 minds 1;asker b wants p dies 0 minds 3;worth minds-6;", 1);
-        shared(c, many("asker a", " wants p dies 0 minds 5;", 8) + "worth 0-9999*9999;", 15);
+        shared(c, Check.many("asker a", " wants p dies 0 minds 5;", 8) + "worth 0-9999*9999;", 15);
     }
 
     private static void heard(Check c, String text, int pleased, int... askers) {
@@ -597,9 +589,9 @@ public final class DayBoundsTest {
         heard(c, songs + "asker a wants q dies 0 minds 9;asker b wants p dies 0 minds 9;ear x taste 0;ear y taste 9;", 18, 1, 0);
         // b to x (9) and a to y (1), not b to y (8)
         heard(c, songs + "asker a wants q dies 0 minds 9;asker b wants p dies 0 minds 9;ear x taste 0;ear y taste 1;", 10, 1, 0);
-        heard(c, songs + many("asker a", " wants p dies 0 minds 9;", 8) + many("ear e", " taste 0;", 5), 45, 0, 1, 2, 3, 4);
-        heard(c, songs + many("asker a", " wants p dies 0 minds 9;", 7) + "asker x wants q dies 0 minds 9;ear e taste 0;ear f taste 9;", 18, 0, 7);
-        heard(c, songs + "asker a wants q dies 0 minds 9;" + many("ear e", " taste 9;", 5), 9, NONE, NONE, NONE, NONE, 0);
+        heard(c, songs + Check.many("asker a", " wants p dies 0 minds 9;", 8) + Check.many("ear e", " taste 0;", 5), 45, 0, 1, 2, 3, 4);
+        heard(c, songs + Check.many("asker a", " wants p dies 0 minds 9;", 7) + "asker x wants q dies 0 minds 9;ear e taste 0;ear f taste 9;", 18, 0, 7);
+        heard(c, songs + "asker a wants q dies 0 minds 9;" + Check.many("ear e", " taste 9;", 5), 9, NONE, NONE, NONE, NONE, 0);
         // the five ears and eight askers of before are no longer there
         heard(c, songs + "asker a wants p dies 0 minds 9;ear x taste 1;", 8, 0);
     }
@@ -668,6 +660,12 @@ public final class DayBoundsTest {
         tells(c, 30, 50);
         c.station(one + "plays day=31 and minds>49;fades minds;");
         tells(c, 0, 100);
+        // 0 .. 49 are played tomorrow, 0 among them
+        c.station(one + "plays day=1 and minds<51;fades minds+1;");
+        tells(c, 1, 50);
+        // 50 .. 99 are, 99 among them
+        c.station(one + "plays day=1 and minds>49;fades minds;");
+        tells(c, 1, 50);
         c.station(one);
         turnTo(c, 999, 0, 5, 0, 0);
         tells(c, 0, 99);

@@ -54,14 +54,6 @@ public final class TextBoundsTest {
         }
     }
 
-    private static String many(String head, String tail, int count) {
-        StringBuilder text = new StringBuilder();
-        for (int i = 0; i < count; i++) {
-            text.append(head).append((char) ('a' + i)).append(tail);
-        }
-        return text.toString();
-    }
-
     // ---- I, STATEMENTS
 
     private static void eightyStatements() {
@@ -131,7 +123,7 @@ public final class TextBoundsTest {
 
     private static void sixSongs() {
         String title = "6 SONGS; 5 one too many of a kind, at its first byte";
-        String six = HOUR + many("song s", " long 1 style 1;", 6);
+        String six = HOUR + Check.many("song s", " long 1 style 1;", 6);
         Check c = new Check(title);
         c.station(six);
         c.due("has(1)", c.x.has(1), 6);
@@ -143,7 +135,7 @@ public final class TextBoundsTest {
 
     private static void eightAskers() {
         String title = "8 ASKERS; 5 one too many of a kind, at its first byte";
-        String eight = SONG + many("asker a", " wants s dies 1 minds 1;", 8);
+        String eight = SONG + Check.many("asker a", " wants s dies 1 minds 1;", 8);
         Check c = new Check(title);
         c.station(eight);
         c.due("has(2)", c.x.has(2), 8);
@@ -154,7 +146,7 @@ public final class TextBoundsTest {
 
     private static void fiveEars() {
         String title = "5 EARS; 5 one too many of a kind, at its first byte";
-        String five = HOUR + many("ear e", " taste 1;", 5);
+        String five = HOUR + Check.many("ear e", " taste 1;", 5);
         Check c = new Check(title);
         c.station(five);
         c.due("has(3)", c.x.has(3), 5);
@@ -218,6 +210,13 @@ public final class TextBoundsTest {
         good(title, HOUR + "plays long>style;worth long*style;");
         faulty(title, 1, HOUR + "fades ^long;", HOUR + "fades ^style;", HOUR + "fades minds+^long;", HOUR + "fades min(1,^style);",
                 HOUR + "worth long;fades ^long;", HOUR + "worth ^alive;", HOUR + "plays ^on=1;", HOUR + "plays ^number=1;", HOUR + "plays ^wants 1=1;");
+        Check c = new Check("the same behind a question");
+        c.station(ASKER);
+        c.asks("total number+alive+on+wants 0", 2);
+        c.faulty(1, HOUR + "worth ^alive;");
+        c.faulty(1, HOUR + "fades ^long;");
+        c.faulty(1, HOUR + "plays ^wants 1=1;");
+        c.asks("total number+alive+on+wants 0", 2);
     }
 
     private static void division() {

@@ -16,6 +16,15 @@ final class Check {
         }
     }
 
+    /** So many statements that differ by a letter, from a on. */
+    static String many(String head, String tail, int count) {
+        StringBuilder text = new StringBuilder();
+        for (int i = 0; i < count; i++) {
+            text.append(head).append((char) ('a' + i)).append(tail);
+        }
+        return text.toString();
+    }
+
     void due(String call, long got, long want) {
         asked++;
         if (got != want) {
